@@ -266,9 +266,8 @@ public final class RopeShelf {
             case 5:
                 return imagesKept;
             default:
-                // Compared before it is subtracted: the least ints would wrap into a rule's number.
-                return what >= FIRST_RULE_COUNT && isRule(what - FIRST_RULE_COUNT)
-                        ? weaver.rules[what - FIRST_RULE_COUNT] : OUTSIDE;
+                int rule = what - FIRST_RULE_COUNT;
+                return isRule(rule) ? weaver.rules[rule] : OUTSIDE;
         }
     }
 

@@ -1,9 +1,5 @@
 /** Each promise of the document by itself: ordinary calls, the edges that are named, wrong numbers. */
-public final class PromiseTest {
-    private static final int LEAST = Integer.MIN_VALUE, GREATEST = Integer.MAX_VALUE;
-    private static final int[] NO_SLOTS = {-1, 8, LEAST, GREATEST};
-    private static int wrong = 0;
-
+public final class PromiseTest extends ShelfTest {
     public static void main(String[] args) {
         constants();
         newObject();
@@ -28,49 +24,7 @@ public final class PromiseTest {
         count();
         image();
         restore();
-        System.out.println(wrong == 0 ? "all promises are kept" : wrong + " answers are not as due");
-        if (wrong != 0) {
-            System.exit(1);
-        }
-    }
-
-    private static void due(String what, int got, int want) {
-        if (got != want) {
-            wrong++;
-            System.out.println(what + " answered " + got + ", due is " + want);
-        }
-    }
-
-    /** Puts a leaf with these signs into a slot. */
-    private static void lay(RopeShelf x, int slot, int... signs) {
-        for (int sign : signs) {
-            x.say(sign);
-        }
-        due("put of " + signs.length, x.put(slot), signs.length);
-    }
-
-    /** Puts a leaf with the signs first, first + 1, .. into a slot. */
-    private static void layRow(RopeShelf x, int slot, int first, int many) {
-        int[] signs = new int[many];
-        for (int i = 0; i < many; i++) {
-            signs[i] = first + i;
-        }
-        lay(x, slot, signs);
-    }
-
-    private static void dueText(String what, RopeShelf x, int slot, int... signs) {
-        due(what + ": how many", x.told(slot, 0), signs.length);
-        for (int i = 0; i < signs.length; i++) {
-            due(what + ": sign " + i, x.sign(slot, i), signs[i]);
-        }
-        due(what + ": behind the last", x.sign(slot, signs.length), RopeShelf.NONE);
-    }
-
-    /** what 0 to 6 of told. */
-    private static void dueTold(String name, RopeShelf x, int slot, int... all) {
-        for (int what = 0; what < all.length; what++) {
-            due(name + ": told " + what, x.told(slot, what), all[what]);
-        }
+        end("all promises are kept");
     }
 
     private static void constants() {
@@ -435,12 +389,6 @@ public final class PromiseTest {
         }
         due("the piece without signs", x.piece(7, 0, 2), 0);
         due("no second one", x.piece(7, 1, 0), RopeShelf.NONE);
-    }
-
-    private static void dueAlike(String name, RopeShelf x, int one, int other, int... all) {
-        for (int what = 0; what < all.length; what++) {
-            due(name + ": alike " + what, x.alike(one, other, what), all[what]);
-        }
     }
 
     private static void alike() {

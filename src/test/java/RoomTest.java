@@ -73,7 +73,7 @@ public final class RoomTest {
         x.cut(4, 1, 0, 24);
         x.join(2, 1, 1);
         x.join(2, 2, 1);
-        for (int call = 13; call < 512; call++) {
+        for (int call = 14; call < 512; call++) {
             x.join(3, 2, 4);
         }
         return x.told(3, 3);
