@@ -1,4 +1,4 @@
-/** Each sentence of promises 1 to 19 that names a boundary case, tested by itself and named by its words. */
+/** Each sentence of promises 1 to 19 that names a boundary case, tested by itself and named by its words, shortened where they are many. */
 public final class CallsBoundaryTest extends ShelfTest {
     private static final int[] NO_IMAGES = {-1, 2, 32, LEAST, GREATEST};
 

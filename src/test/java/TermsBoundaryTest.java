@@ -1,4 +1,4 @@
-/** Each sentence of the document's "Terms" that names a boundary case, tested by itself and named by its words. */
+/** Each sentence of the document's "Terms" that names a boundary case, tested by itself and named by its words, shortened where they are many. */
 public final class TermsBoundaryTest extends ShelfTest {
     public static void main(String[] args) {
         lastCalls();
@@ -639,8 +639,12 @@ public final class TermsBoundaryTest extends ShelfTest {
             due(name, x.told(1, 1), row[3]);
             due(name + ": cells", x.told(1, 4), row[3] == 2 ? 2 : 1);
             due(name + ": the last sign", x.sign(1, row[2] - 1), row[1]);
-            x.cut(2, 0, row[1] - row[2], row[2]);
+            due(name + ", again", x.cut(2, 0, row[1] - row[2], row[2]), row[2]);
             dueSame(name + ": a new one", x, 1, 2, false);
+            due(name + ": of the same text", x.alike(1, 2, 0), 1);
+            due(name + ", after another join", x.join(3, 1, 2), 2 * row[2]);
+            due(name + ", after another join", x.cut(4, 0, 0, row[2]), row[2]);
+            due(name + ": the first sign", x.sign(4, 0), 1);
         }
     }
 
@@ -735,13 +739,16 @@ public final class TermsBoundaryTest extends ShelfTest {
 
     private static void cutLeavesTheRope() {
         sentence("Texts are joined without copying, and cut without copying");
-        for (int n = 1; n <= 9; n++) {
-            // Balanced by the last call but one: all its joins were made at once, and the cut is balanced, too.
-            RopeShelf x = chain(7, 9);
-            x.rule(DEEP, 1);
-            x.cut(5, 7, 9 - n, n);
-            dueTold("the rope stays", x, 7, 9, 1, 4, 9, 9, 8 * 24 + 25, 0);
-            due("what is cut out of it", x.told(5, 3), n);
+        for (int f = 0; f < 14; f++) {
+            for (int n = 1; f + n <= 14; n++) {
+                // Balanced by the last call but one: all its joins were made at once, and the cut is balanced, too.
+                RopeShelf x = chain(12, 14);
+                x.rule(DEEP, 1);
+                x.cut(5, 7, f, n);
+                dueTold("the rope stays", x, 7, 14, 1, 4, 14, 14, 13 * 24 + 25, 0);
+                due("what is cut out of it: pieces", x.told(5, 3), n);
+                due("what is cut out of it: joins and the leaf", x.told(5, 4), n);
+            }
         }
         RopeShelf x = singles(2);
         x.join(2, 0, 1);
