@@ -35,7 +35,7 @@ public final class RopeShelf {
 
     public RopeShelf() {
         for (int i = 0; i < slots.length; i++) {
-            slots[i] = Cell.leaf(draft);
+            slots[i] = Cell.emptyLeaf();
         }
     }
 
@@ -387,6 +387,13 @@ public final class RopeShelf {
         /** The last walk that came by. */
         int mark;
 
+        static Cell emptyLeaf() {
+            Cell cell = new Cell();
+            cell.kind = LEAF;
+            cell.signs = new int[0];
+            return cell;
+        }
+
         static Cell leaf(Text text) {
             Cell cell = new Cell();
             cell.many = text.many;
@@ -689,8 +696,7 @@ public final class RopeShelf {
 
         private Cell cutOut(Cell cell, int f, int n, int level) {
             if (cell == null || n <= 0 || level > DEEPEST) {
-                text.clear();
-                return Cell.leaf(text);
+                return Cell.emptyLeaf();
             }
             if (n == cell.many) {
                 return cell;
